@@ -88,16 +88,19 @@ public final class FaceTest {
             int modifiers = inside.getModifiers();
             Check.due(inside + " is static", Modifier.isStatic(modifiers) ? 1 : 0, 1);
             Check.due(inside + " is seen", Modifier.isPublic(modifiers) || Modifier.isProtected(modifiers) ? 1 : 0, 0);
+            for (Method m : inside.getDeclaredMethods()) {
+                Check.due(inside + " has a public name: " + m.getName(), bearsPublicName(m) ? 1 : 0, 0);
+            }
         }
     }
 
     private static void forbiddenWords(String source) {
         String bare = source.replaceAll("(?s)/\\*.*?\\*/", "").replaceAll("//.*", "");
-        String[] words = {"throw", "throws", "try", "catch", "synchronized", "assert", "package", "Exact", "System.out",
-            "Random", "Thread", "->", "::"};
+        String[] words = {"throw", "throws", "try", "catch", "synchronized", "assert", "package", "System.out",
+            "Random", "Thread", "->", "::", "Exact("};
         for (String word : words) {
-            boolean there = Character.isLetter(word.charAt(0))
-                    ? bare.matches("(?s).*\\b" + word.replace(".", "\\.") + "\\b.*") : bare.contains(word);
+            boolean plain = word.matches("\\w+");
+            boolean there = plain ? bare.matches("(?s).*\\b" + word + "\\b.*") : bare.contains(word);
             Check.due("the word " + word, there ? 1 : 0, 0);
         }
         Check.due("bytes beyond 127", source.chars().filter(c -> c > 127).count(), 0);

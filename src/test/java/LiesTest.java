@@ -83,6 +83,12 @@ public final class LiesTest {
         Check.due("bend", blunt.bend(1, 0, 2), 2);
         Check.due("foot below 0", blunt.foot(0, 1, 2, 0), -7);
         Check.due("foot below 0", blunt.foot(0, 1, 2, 1), 8);
+        OnlyFar least = Check.of("far 0 1 1;far 0 2 1;far 1 2 1;");
+        Check.due("bend", least.bend(1, 0, 2), 1);
+        least.tell(1, 2, 2);
+        Check.due("bend", least.bend(1, 0, 2), 0);
+        least.tell(1, 2, 3);
+        Check.due("bend", least.bend(1, 0, 2), 2);
         OnlyFar no = Check.of("far 0 1 1;far 0 2 1;far 1 2 9;");
         Check.due("bend of three that can not be", no.bend(1, 0, 2), 2);
     }

@@ -122,6 +122,9 @@ public final class MissingTest {
         Check.due("ends(1, 1, 0)", x.ends(1, 1, 0), OnlyFar.BAD);
         Check.due("ends(1, 4, 0)", x.ends(1, 4, 0), OnlyFar.BAD);
         Check.due("ends(-1, 1, 0)", x.ends(-1, 1, 0), OnlyFar.BAD);
+        OnlyFar zero = Check.of("places 4;far 0 2 4;far 0 3 9;");
+        Check.due("ends by PLACE 0", zero.ends(2, 3, 0), 1);
+        Check.due("ends by PLACE 0", zero.ends(2, 3, 1), 25);
         OnlyFar most = Check.of("far 0 2 9999;far 1 2 9999;");
         Check.due("ends at the most", most.ends(0, 1, 1), 4 * 9999);
     }

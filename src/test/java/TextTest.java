@@ -95,6 +95,10 @@ public final class TextTest {
         Check.refused("7", 2, 0);
         Check.refused("  road 7;", 2, 2);
         Check.refused("place 3;", 2, 0);
+        Check.refused("xlaces 3;", 2, 0);
+        Check.refused("bar 0 1 5;", 2, 0);
+        Check.refused("z", 2, 0);
+        Check.refused("a", 2, 0);
         Check.refused("placess 3;", 2, 0);
         Check.refused("fa 0 1 5;", 2, 0);
         Check.refused("placesfar 0 1 5;", 2, 0);

@@ -4,7 +4,11 @@ public final class ThreesTest {
         wideAndThree();
         fours();
         wrongs();
+        inALine();
+        askedFirst();
         falsesByTrial();
+        fewestOfSeveral();
+        threeOrFourFalse();
         moreThanThree();
         Check.finish();
     }
@@ -66,6 +70,69 @@ public final class ThreesTest {
         Check.due("doubt(0)", x.doubt(0), OnlyFar.NONE);
         Check.due("doubt(1)", x.doubt(1), OnlyFar.NONE);
         Check.due("falses(1)", x.falses(1), 0);
+    }
+
+    private static void inALine() {
+        OnlyFar x = Check.of("places 4;far 0 1 1;far 1 2 1;far 0 2 4;far 2 3 1;far 1 3 4;far 0 3 9;");
+        Check.due("wrong(2) of a line", x.wrong(2), 4);
+        Check.due("wrong(2) again", x.wrong(2), 4);
+        Check.due("wrong(3)", x.wrong(3), 4);
+        Check.due("wrong(0)", x.wrong(0), 0);
+        Check.due("wrong(1)", x.wrong(1), 0);
+        x.tell(0, 3, 10);
+        Check.due("wrong(2)", x.wrong(2), 2);
+        Check.due("wrong(0)", x.wrong(0), 2);
+        Check.due("wrong(0) again", x.wrong(0), 2);
+        Check.due("wrong(1)", x.wrong(1), 1);
+        x.tell(0, 3, OnlyFar.NONE);
+        Check.due("wrong(3)", x.wrong(3), 2);
+    }
+
+    /** What falses and doubt answer hangs on no call ahead of them. */
+    private static void askedFirst() {
+        String text = "places 4;far 1 2 1;far 1 3 1;far 2 3 9;";
+        Check.due("falses(0)", Check.of(text).falses(0), 1);
+        Check.due("falses(1)", Check.of(text).falses(1), 4);
+        Check.due("doubt(0)", Check.of(text).doubt(0), 2);
+        Check.due("doubt(1)", Check.of(text).doubt(1), 1);
+        Check.due("wrong(0)", Check.of(text).wrong(0), 1);
+    }
+
+    /** Two threes that share a PAIR which is not their least, and one that shares none: the search must go on. */
+    private static void fewestOfSeveral() {
+        OnlyFar x = Check.of("places 4;far 0 1 1;far 0 2 1;far 1 2 9;far 0 3 1;far 1 3 1;");
+        x.tell(0, 3, 9);
+        Check.due("falses(1)", x.falses(1), 1);
+        OnlyFar y = Check.of("places 5;far 0 1 1;far 0 2 9;far 1 2 1;far 0 3 9;far 2 3 1;far 3 4 1;far 0 4 100;");
+        compareFalses(y, -1);
+        Check.Lot lot = new Check.Lot(13);
+        for (int round = 0; round < 400; round++) {
+            OnlyFar z = Check.of("places 5;");
+            for (int b = 1; b < 5; b++) {
+                for (int a = 0; a < b; a++) {
+                    int v = lot.below(3);
+                    z.tell(a, b, v == 0 ? OnlyFar.NONE : v == 1 ? 1 : 9);
+                }
+            }
+            compareFalses(z, round);
+        }
+    }
+
+    /** Threes that share no PAIR need one false LENGTH each: three of them can be told, four can not. */
+    private static void threeOrFourFalse() {
+        int[][] threes = {{0, 1, 2}, {0, 3, 4}, {1, 3, 5}, {2, 4, 5}};
+        OnlyFar x = Check.of("places 6;");
+        for (int i = 0; i < threes.length; i++) {
+            int[] t = threes[i];
+            x.tell(t[0], t[1], 1);
+            x.tell(t[0], t[2], 1);
+            x.tell(t[1], t[2], 9);
+            Check.due("falses(0)", x.falses(0), i < 3 ? i + 1 : OnlyFar.NONE);
+        }
+        Check.due("falses(1)", x.falses(1), OnlyFar.NONE);
+        x.tell(2, 4, OnlyFar.NONE);
+        Check.due("falses(0)", x.falses(0), 3);
+        Check.due("falses(1), 1 2 5 can not be either", x.falses(1), 1 << x.pair(1, 2) | 1 << x.pair(0, 3) | 1 << x.pair(1, 3));
     }
 
     /** Tables by lot, against the words of the document tried one set after another by calls alone. */

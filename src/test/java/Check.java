@@ -4,6 +4,8 @@ final class Check {
 
     private static int asked = 0;
     private static int wrong = 0;
+    private static String subject = "";
+    private static int askedAhead = 0;
 
     private Check() {
     }
@@ -13,9 +15,18 @@ final class Check {
         if (got != want) {
             wrong++;
             if (wrong <= 40) {
-                System.out.println(call + " answered " + got + ", due is " + want);
+                System.out.println(subject + call + " answered " + got + ", due is " + want);
             }
         }
+    }
+
+    /** What is asked from here on is about this; about what was named before something must have been asked. */
+    static void about(String what) {
+        if (!subject.isEmpty() && asked == askedAhead) {
+            due("nothing", 0, 1);
+        }
+        subject = what + ": ";
+        askedAhead = asked;
     }
 
     /** Prints the sum and ends the run with 1 if an answer was wrong. */

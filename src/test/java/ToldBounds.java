@@ -17,6 +17,26 @@ final class ToldBounds extends Bounds {
         three(1, 2, 0).due("tells 1 1", 1).due("tells 2 1", 1).due("tells 1 4", 0).due("tells 1 5", 0);
         three(9999, 9998, 0).due("tells 1 1", 1).call("tell 0 2 9999").due("tells 1 1", 0).call("tell 0 2 NONE")
                 .due("tells 1 1", 1).due("tells 2 1", 0);
+        oneMissing();
+    }
+
+    /** All squares are unlike, so that p is TOLD by all others, but not when the LENGTH to one of them is missing. */
+    private static void oneMissing() {
+        int[] squares = new int[21];
+        for (int pair = 0; pair < 21; pair++) {
+            squares[pair] = pair + 1;
+        }
+        Run x = lengths(7, squares);
+        for (int p = 0; p < 7; p++) {
+            String call = "tells " + p + " " + (127 & ~(1 << p));
+            x.due(call, 1);
+            for (int s = 0; s < 7; s++) {
+                if (s != p) {
+                    long was = x.ask("tell " + p + " " + s + " NONE");
+                    x.due(call, 0).due("tells " + p + " " + (1 << s), 0).call("tell " + p + " " + s + " " + was);
+                }
+            }
+        }
     }
 
     private static void tells() {

@@ -10,6 +10,7 @@ final class AnswerBounds extends Bounds {
         numbersFromNought();
         refusedChangesNothing();
         askingChangesNothing();
+        askedInAnyOrder();
         manyCalls();
     }
 
@@ -200,6 +201,43 @@ final class AnswerBounds extends Bounds {
             for (String call : Rich.ASKING) {
                 Run x = Rich.make(kind).call(call).due("fault", fault);
                 Check.due(call + " left kind " + kind + " as it was", Rich.look(x).equals(ahead) ? 1 : 0, 1);
+            }
+        }
+    }
+
+    /** What a call answers hangs on what there is, not on what was asked ahead of it of another table. */
+    private static void askedInAnyOrder() {
+        Check.about("calls behind calls of another table");
+        Check.Lot lot = new Check.Lot(6);
+        for (int round = 0; round < 60; round++) {
+            int places = lot.from(3, 7);
+            int[][] tables = {squares(lot, places), squares(lot, places)};
+            Run both = lengths(places, tables[0]).call("keep 0");
+            tell(both, places, tables[1]);
+            both.call("keep 1");
+            for (int turn = 0; turn < 4; turn++) {
+                both.call("back " + turn % 2);
+                Run alone = lengths(places, tables[turn % 2]);
+                for (String call : Rich.OF_THE_TABLE) {
+                    both.due(call, alone.ask(call));
+                }
+            }
+        }
+    }
+
+    private static int[] squares(Check.Lot lot, int places) {
+        int[] squares = new int[places * (places - 1) / 2];
+        for (int pair = 0; pair < squares.length; pair++) {
+            squares[pair] = lot.below(6) == 0 ? 0 : lot.from(1, 4);
+        }
+        return squares;
+    }
+
+    private static void tell(Run x, int places, int[] squares) {
+        for (int b = 1; b < places; b++) {
+            for (int a = 0; a < b; a++) {
+                int square = squares[b * (b - 1) / 2 + a];
+                x.call("tell " + a + " " + b + " " + (square == 0 ? "NONE" : square));
             }
         }
     }

@@ -6,6 +6,14 @@ final class Rich {
     /** 0 is a new object, 1 has something of all but room for more, 2 is full. */
     static final int KINDS = 3;
 
+    /** Calls that ask of THE TABLE alone. */
+    static final String[] OF_THE_TABLE = {"wrong 0", "wrong 1", "wrong 2", "wrong 3", "falses 0", "falses 1", "doubt 0", "doubt 1",
+        "wide 0 1 2", "four 0 1 2 3", "bend 0 1 2", "foot 0 1 2 0", "height 0 1 2 1", "round 0 1 2 0", "side 0 1 2 3",
+        "within 0 1 2 3", "sixth 0 1 2 3 3", "sixth 2 3 0 1 4", "ends 0 1 0", "ends 0 1 1", "drawings 0 1 0", "drawings 0 1 1",
+        "drawings 0 1 2", "drawings 0 1 3", "drawings 0 1 12", "drawings 0 1 13", "drawings 0 1 14", "drawings 0 2 0",
+        "drawings 0 2 11", "spare 0 1 2 3", "spare 0 1 3 4", "base", "words 0 0", "words 2 1", "tells 0 6", "at 0 1 1 2",
+        "spots 0 1 1 1"};
+
     /** Calls that only ask. */
     static final String[] ASKING = {"fault", "far 0 1", "pair 0 2", "wide 0 1 2", "three 0 1 2", "four 0 1 2 3", "wrong 0",
         "wrong 1", "wrong 2", "wrong 3", "falses 0", "falses 1", "doubt 0", "doubt 1", "bend 0 1 2", "foot 0 1 2 0",
@@ -56,9 +64,9 @@ final class Rich {
     private static Run withRoom() {
         Run x = new Run().feed("places 5;far 0 1 36;far 0 2 64;far 1 2 100;far 0 3 9;far 1 4 7;").call("land");
         x.call("part 9").call("part 4").call("keep 0").call("part 6").call("tell 0 3 8");
-        fill(x, 0, 0, 0, 1, 35, 1, 2, 99);
-        fill(x, 1, 1, 0, 2, 63, 4, 4, 11, 0);
-        fill(x, 2, 2, 0, 1, 65536);
+        fill(x, 0, 0, 1, 0, 35, 1, 2, 99);
+        fill(x, 1, 1, 2, 0, 63, 4, 4, 11, 5);
+        fill(x, 2, 2, 1, 0, 65536);
         return x.call("read 0 1 0 1").feed("places 3;places 3;").call("land").feed("places 6;far 4 5 123;").call("end 20").feed("3;");
     }
 
@@ -74,9 +82,9 @@ final class Rich {
             x.call("part " + l);
         }
         x.call("tell 5 6 9999").call("keep 0").call("tell 4 6 9998");
-        fill(x, 0, 0, 0, 1, 35, 1, 2, 99).call("sheet 0 0 40").call("lay 0 39 1");
-        fill(x, 1, 1, 0, 2, 63, 4, 5, 11, 5, 6, 9997, 6, 6, 1);
-        fill(x, 2, 2, 0, 1, 7, 1, 2, 8, 2, 3, 0);
+        fill(x, 0, 0, 0, 1, 35, 1, 2, 99).call("sheet 0 0 40").call("lay 0 37 5").call("lay 0 38 6").call("lay 0 39 77");
+        fill(x, 1, 1, 2, 0, 63, 4, 5, 11, 5, 6, 9997, 6, 6, 1);
+        fill(x, 2, 2, 1, 0, 7, 1, 2, 8, 2, 3, 0);
         fill(x, 3, 2);
         return x.call("read 3 2 0 1").feed("places 9;").call("land").feed(" ".repeat(311) + "places 4;");
     }
@@ -97,6 +105,7 @@ final class Rich {
                 for (int n = 13; n > 0; n -= 4) {
                     seen.append(x.ask("read " + k + " " + lane + " 0 " + n)).append(' ');
                 }
+                seen.append(x.ask("read " + k + " " + lane + " 37 1")).append(' ');
                 seen.append(x.ask("torn")).append(' ');
             }
             seen.append(x.state());

@@ -163,6 +163,8 @@ final class RoadBounds extends Bounds {
         y.call("tell 0 1 7").due("keep 0", 1).due("back 1", 1).due("far 0 1", 6).due("count 2", 1).due("back 0", 1);
         y.due("far 0 1", 7).due("count 3", 2);
         y.due("land", 0).due("keep 0", 0).due("keep 1", 0);
+        Run z = fresh().due("keep 0", 0).call("part 3").call("tell 0 1 5").due("keep 1", 0).due("back 0", 0).due("count 2", 0);
+        z.due("keep 0", 1).due("back 1", 1).due("count 2", 1).due("keep 1", 1).due("back 0", 0).due("road 0", STATE);
         says(35, "BAD");
         fresh().due("keep -1", BAD).due("keep 2", BAD).due("keep MIN", BAD).due("keep MAX", BAD).due("count 3", 0)
                 .due("keep 0", 0).due("keep 1", 0);

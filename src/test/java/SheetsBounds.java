@@ -138,6 +138,11 @@ final class SheetsBounds extends Bounds {
         x.due("read 3 1 33 2", 2).due("far 1 0", 112).due("read 3 1 0 2", 2).due("far 0 1", 101);
         // From CELL 1 on: what was a square is now a PLACE.
         x.due("read 3 1 1 1", -20).due("read 3 1 2 1", -20).due("far 0 1", 101);
+        // Neither what stands ahead of CELL f comes nor what stands behind the n-th one.
+        for (int f = 0; f <= 6; f += 3) {
+            Run z = fill(fresh(), 0, 0, 0, 1, 5, 0, 2, 6, 1, 2, 7).due("read 0 0 " + f + " 1", 1).due("count 1", 1);
+            z.due("far 0 1", f == 0 ? 5 : NONE).due("far 0 2", f == 3 ? 6 : NONE).due("far 1 2", f == 6 ? 7 : NONE);
+        }
         Run y = of("places 7;far 5 6 7;");
         fill(y, 0, 0, 9, 5, 6, 1, 6, 5, 127).due("read 0 0 1 1", 1).due("far 5 6", 1).due("read 0 0 1 2", 2).due("far 5 6", 127);
         y.due("count 1", 1);
@@ -218,10 +223,12 @@ final class SheetsBounds extends Bounds {
         x.due("read 1 0 0 1", 0).due("torn", 1).due("torn", 1).due("read 0 1 0 1", 0).due("torn", 3).due("read 0 0 0 2", 1);
         x.due("torn", 2).due("read 0 0 0 1", 1).due("torn", 0).due("read 0 1 0 1", 0).due("torn", 3).due("read 0 1 0 0", 0);
         x.due("torn", 0);
+        x.call("read 1 0 0 1").due("sheet 2 0 3", 1).due("torn", 1).due("lay 2 0 1", 1).due("torn", 1).call("tell 0 1 5");
+        x.due("torn", 1);
         says(40, "(one that is refused leaves it)");
         x.call("read 1 0 0 1").due("read 4 0 0 1", BAD).due("torn", 1).due("read 0 3 0 1", BAD).due("torn", 1);
         x.due("read 0 0 0 14", BAD).due("torn", 1).due("read 0 0 0 -1", BAD).due("torn", 1).due("read 0 0 2 1", -20).due("torn", 1);
-        x.due("sheet 0 0 -1", -14).due("torn", 1).due("lay 2 0 1", -11).due("torn", 1).due("lay 0 9 1", -12).due("torn", 1);
+        x.due("sheet 0 0 -1", -14).due("torn", 1).due("lay 3 0 1", -11).due("torn", 1).due("lay 0 9 1", -12).due("torn", 1);
         x.due("read 0 0 0 1", 1).due("torn", 0).due("read 0 0 2 1", -20).due("torn", 0);
         x.call("read 0 0 0 2").due("read 0 0 2 1", -20).due("torn", 2).call("keep 0").call("back 0").due("torn", 2);
         x.call("land").due("torn", 2);

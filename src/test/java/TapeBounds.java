@@ -123,6 +123,7 @@ final class TapeBounds extends Bounds {
             x.feed(texts[i]).call("land").due("fault", due[i]).due("fault", due[i]);
         }
         x.feed(";").call("land").feed("!").due("fault", 2).due("end 0", 1).due("tell 0 0 1", BAD).due("fault", 2);
+        x.call("tell 0 1 1").call("part 1").call("sheet 0 0 1").call("clear").due("fault", 2);
         x.call("keep 0").call("back 0").due("fault", 2).due("land", 0).due("fault", 0);
     }
 

@@ -233,6 +233,10 @@ final class ThreesBounds extends Bounds {
         alike(7, 1).due("doubt 0", 0).due("doubt 1", 10);
         lengths(4, NO_THREES[0]).due("doubt 0", 0).due("doubt 1", 3);
         lengths(4, NO_THREES[1]).due("doubt 0", 3).due("doubt 1", 3);
+        three(1, 2, 6).due("doubt 0", 0).call("tell 1 2 3").due("doubt 0", NONE).due("doubt 1", NONE).call("tell 1 2 6")
+                .due("doubt 1", 1);
+        alike(4, 1).due("doubt 1", 1).call("tell 0 1 9").due("doubt 0", 0).due("doubt 1", 3).call("tell 0 1 3")
+                .due("doubt 0", NONE);
         says(14, "BAD");
         fresh().due("doubt -1", BAD).due("doubt 2", BAD).due("doubt MIN", BAD).due("doubt MAX", BAD);
         three(1, 2, 6).due("doubt 2", BAD).due("doubt -1", BAD);

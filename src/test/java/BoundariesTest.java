@@ -1,6 +1,12 @@
 /** Each sentence of the document that names a boundary case: at the boundary and on both sides of it. */
 public final class BoundariesTest {
     public static void main(String[] args) {
+        askAll();
+        Doc.nothingIsLeft();
+        Check.finish();
+    }
+
+    static void askAll() {
         AnswerBounds.all();
         TapeBounds.all();
         TokenBounds.all();
@@ -11,7 +17,5 @@ public final class BoundariesTest {
         ToldBounds.all();
         RoadBounds.all();
         SheetsBounds.all();
-        Doc.nothingIsLeft();
-        Check.finish();
     }
 }

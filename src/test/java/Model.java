@@ -1,14 +1,17 @@
 import java.util.ArrayList;
 import java.util.Arrays;
 import java.util.List;
+import java.util.Objects;
 import java.util.TreeMap;
 import java.util.regex.Matcher;
 import java.util.regex.Pattern;
 
-/** The calls that change something, written a second time in another way: the FAULTS of a SHEET are those of the machine. */
+/** All calls, written a second time in another way: the FAULTS of a SHEET are those of the machine, a TOKEN is a pattern. */
 final class Model {
     private static final int BAD = -1, STATE = -2, FULL = -3, NONE = -4;
     private static final Pattern TOKEN = Pattern.compile(" *(?:([a-z]+)|([0-9]+)|(;))");
+
+    private static final List<List<int[]>> NAMES = names();
 
     private final StringBuilder tape = new StringBuilder();
     private Land land = new Land();
@@ -50,15 +53,17 @@ final class Model {
 
     long ask(String call) {
         String[] words = call.split(" ");
-        long[] v = new long[5];
-        for (int i = 1; i < words.length; i++) {
-            v[i] = Long.parseLong(words[i]);
+        if (words[0].equals("feed")) {
+            return feed(Long.parseLong(words[1]));
         }
-        int a = (int) v[1];
-        int b = (int) v[2];
-        int c = (int) v[3];
+        int[] v = new int[5];
+        for (int i = 1; i < words.length; i++) {
+            v[i - 1] = Integer.parseInt(words[i]);
+        }
+        int a = v[0];
+        int b = v[1];
+        int c = v[2];
         return switch (words[0]) {
-            case "feed" -> feed(v[1]);
             case "end" -> end(a);
             case "land" -> land();
             case "fault" -> fault;
@@ -68,19 +73,21 @@ final class Model {
             case "part" -> part(a);
             case "clear" -> clear();
             case "road" -> road(a);
+            case "reaches" -> reaches(a, b);
+            case "maps" -> maps(a, b);
             case "keep" -> keep(a);
             case "back" -> back(a);
             case "sheet" -> sheet(a, b, c);
             case "lay" -> lay(a, b, c);
-            case "read" -> read(a, b, c, (int) v[4]);
+            case "read" -> read(a, b, c, v[3]);
             case "torn" -> torn;
             case "count" -> count(a);
-            default -> throw new IllegalArgumentException(call);
+            default -> new Asked(land.places, land.told).ask(words[0], v);
         };
     }
 
     private static int pair(int a, int b) {
-        return Math.max(a, b) * (Math.max(a, b) - 1) / 2 + Math.min(a, b);
+        return Asked.pair(a, b);
     }
 
     private int feed(long v) {
@@ -235,6 +242,76 @@ final class Model {
             greatest += l;
         }
         return what == 0 ? least : greatest;
+    }
+
+    private int reaches(int a, int b) {
+        if (!land.areTwo(a, b)) {
+            return BAD;
+        }
+        if (land.road.isEmpty()) {
+            return STATE;
+        }
+        Integer square = land.told.get(pair(a, b));
+        if (square == null) {
+            return NONE;
+        }
+        double far = Math.sqrt(square);
+        return road(0) <= far && far <= road(1) ? 1 : 0;
+    }
+
+    /** All ways to call the PLACES, those with the least name of PLACE 0 first, then of 1, .. */
+    private int maps(int k, int what) {
+        boolean name = what >= 10 && what < 10 + land.places;
+        if (k < 0 || k > 1 || !name && what != 0) {
+            return BAD;
+        }
+        if (images[k] == null) {
+            return STATE;
+        }
+        int found = 0;
+        for (int[] names : NAMES.get(land.places)) {
+            if (land.places == images[k].places && isMap(names, images[k])) {
+                if (name) {
+                    return names[what - 10];
+                }
+                found++;
+            }
+        }
+        return name ? NONE : found;
+    }
+
+    private boolean isMap(int[] names, Land image) {
+        for (int b = 1; b < names.length; b++) {
+            for (int a = 0; a < b; a++) {
+                if (!Objects.equals(land.told.get(pair(a, b)), image.told.get(pair(names[a], names[b])))) {
+                    return false;
+                }
+            }
+        }
+        return true;
+    }
+
+    private static List<List<int[]>> names() {
+        List<List<int[]>> all = new ArrayList<>();
+        for (int places = 0; places <= 7; places++) {
+            List<int[]> ways = new ArrayList<>();
+            nameOne(new int[places], 0, ways);
+            all.add(ways);
+        }
+        return all;
+    }
+
+    private static void nameOne(int[] names, int p, List<int[]> ways) {
+        if (p == names.length) {
+            ways.add(names.clone());
+            return;
+        }
+        for (int name = 0; name < names.length; name++) {
+            names[p] = name;
+            if (Arrays.stream(names, 0, p + 1).distinct().count() == p + 1) {
+                nameOne(names, p + 1, ways);
+            }
+        }
     }
 
     private int keep(int k) {

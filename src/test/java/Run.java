@@ -2,13 +2,16 @@ import java.lang.reflect.InvocationTargetException;
 import java.lang.reflect.Method;
 import java.lang.reflect.Modifier;
 import java.util.Map;
+import java.util.Set;
 import java.util.TreeMap;
+import java.util.TreeSet;
 
 /** A new object and calls on it, each written as a text: its name and its arguments, one blank between them. */
 final class Run {
     /** The document promises nothing about later calls. */
     static final int MOST_CALLS = 512;
     private static final Map<String, Method> CALLS = calls();
+    private static final Map<String, Set<Long>> BELOW_NOUGHT = new TreeMap<>();
 
     private final OnlyFar far = new OnlyFar();
     private int made = 0;
@@ -37,7 +40,11 @@ final class Run {
             arguments[i] = argument(words[i + 1], method.getParameterTypes()[i]);
         }
         try {
-            return ((Number) method.invoke(far, arguments)).longValue();
+            long answer = ((Number) method.invoke(far, arguments)).longValue();
+            if (answer < 0) {
+                BELOW_NOUGHT.computeIfAbsent(words[0], name -> new TreeSet<>()).add(answer);
+            }
+            return answer;
         } catch (InvocationTargetException e) {
             e.getCause().printStackTrace(System.out);
             Check.due(call + " threw", 1, 0);
@@ -45,6 +52,11 @@ final class Run {
         } catch (IllegalAccessException e) {
             throw new IllegalStateException(e);
         }
+    }
+
+    /** The answers below 0 that the call has given in all runs. */
+    static Set<Long> belowNought(String name) {
+        return BELOW_NOUGHT.getOrDefault(name, Set.of());
     }
 
     int made() {

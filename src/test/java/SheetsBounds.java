@@ -212,6 +212,10 @@ final class SheetsBounds extends Bounds {
             last[i] = i % 3;
         }
         fill(fresh(), 2, 0, last).due("read 2 0 0 13", -32).due("count 1", 0).due("read 2 0 0 12", 12).due("far 0 1", 2);
+        last[38] = 2;
+        for (int i = 0; i < 13; i++) {
+            fill(fresh(), 2, 0, last).call("lay 2 " + (3 * i + 2) + " 0").due("read 2 0 0 13", -20 - i).due("count 1", 0);
+        }
         fill(of("places 7;"), 0, 0, 6, 0, 5).due("read 0 0 0 1", 1).due("far 0 6", 5);
         fill(of("places 6;"), 0, 0, 6, 0, 5).due("read 0 0 0 1", -20);
         fill(of("places 2;"), 0, 0, 0, 1, 5, 0, 2, 5).due("read 0 0 0 2", -21).due("read 0 0 0 1", 1);

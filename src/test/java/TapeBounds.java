@@ -99,6 +99,9 @@ final class TapeBounds extends Bounds {
         for (int i = 0; i < texts.length; i++) {
             fresh().feed(texts[i]).due("land", -10 - at[i]);
         }
+        for (int place = 0; place < 320; place++) {
+            fresh().feed(" ".repeat(place) + "!").due("land", -10 - place);
+        }
     }
 
     private static void toldStays() {
